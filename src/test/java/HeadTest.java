@@ -1,0 +1,51 @@
+/** Promise 6: head. */
+public final class HeadTest {
+    public static void main(String[] args) {
+        answersTheHead();
+        forcesItOnce();
+        refusesWhatHasNoHead();
+        hasNoResultWhenItThrows();
+        startsAtDepthOne();
+        Driver.end();
+    }
+
+    private static void answersTheHead() {
+        new Driver().ask(":4n", Driver.PAIR).head(4).head(4);
+        new Driver().ask(":-03/10", Driver.PAIR).head(-3).tailThrows(Driver.ARITHMETIC);
+        new Driver().ask(":1:2n", Driver.PAIR).head(1).tail(Driver.PAIR).head(2).head(2).tail(Driver.NIL);
+    }
+
+    private static void forcesItOnce() {
+        Driver d = new Driver().define("A=5", 0).ask(":AA", Driver.PAIR).count(3, 0).count(5, 0);
+        d.head(5).count(3, 1).count(4, 1).count(5, 1).count(6, 0);
+        d.head(5).count(3, 1).count(4, 1).count(5, 1).count(6, 1);
+        d.tail(Driver.NUMBER).count(3, 2).count(5, 2).count(6, 1);
+    }
+
+    private static void refusesWhatHasNoHead() {
+        new Driver().headThrows(Driver.MISSING);
+        new Driver().ask("n", Driver.NIL).headThrows(Driver.MISSING);
+        new Driver().ask("1", Driver.NUMBER).headThrows(Driver.UNSUPPORTED);
+        new Driver().define("Aa=a", 1).ask("A", Driver.FUNCTION).headThrows(Driver.UNSUPPORTED);
+        new Driver().ask(":nn", Driver.PAIR).headThrows(Driver.UNSUPPORTED).count(5, 1);
+    }
+
+    private static void hasNoResultWhenItThrows() {
+        gone(new Driver().ask("n", Driver.NIL).headThrows(Driver.MISSING));
+        gone(new Driver().ask("1", Driver.NUMBER).headThrows(Driver.UNSUPPORTED));
+        gone(new Driver().ask("::12n", Driver.PAIR).headThrows(Driver.UNSUPPORTED));
+        gone(new Driver().ask(":/10n", Driver.PAIR).headThrows(Driver.ARITHMETIC));
+        gone(new Driver().ask(":Fn", Driver.PAIR).headThrows(Driver.MISSING));
+        gone(new Driver().define("A=A", 0).ask(":An", Driver.PAIR).headThrows(Driver.STATE));
+    }
+
+    private static void gone(Driver d) {
+        d.numberThrows(Driver.MISSING).headThrows(Driver.MISSING).tailThrows(Driver.MISSING);
+    }
+
+    private static void startsAtDepthOne() {
+        Driver d = new Driver().ask(":7:+12n", Driver.PAIR).count(7, 1).head(7).count(7, 1);
+        d.tail(Driver.PAIR).count(7, 1).head(3).count(7, 2).head(3).count(7, 2);
+        new Driver().define("F=:hFF", 0).ask("F", Driver.PAIR).headThrows(Driver.STATE).count(3, 60).count(7, 60);
+    }
+}
