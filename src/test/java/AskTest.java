@@ -33,8 +33,7 @@ public final class AskTest {
         String[] asked = {"F", "/10", "+1n", "hn", "t1", ".11"};
         for (String text : asked) {
             Driver d = new Driver().askNumber("6", 6);
-            d.askThrows(text, dueFor(text)).numberThrows(Driver.MISSING).headThrows(Driver.MISSING);
-            d.tailThrows(Driver.MISSING);
+            d.askThrows(text, dueFor(text)).hasNoResult();
         }
     }
 

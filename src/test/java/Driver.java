@@ -97,6 +97,14 @@ final class Driver {
         return check(shown("ask", text), machine::ask, due);
     }
 
+    /** For what ask leaves behind, whatever it answers. */
+    Driver askAnything(String text) {
+        typeAll(text);
+        history.append(shown("ask", text)).append("; ");
+        outcome(machine::ask);
+        return this;
+    }
+
     Driver askNumber(String text, int due) {
         return ask(text, NUMBER).number(due);
     }
@@ -132,6 +140,10 @@ final class Driver {
 
     Driver tailThrows(Class<? extends RuntimeException> due) {
         return check("tail", machine::tail, due);
+    }
+
+    Driver hasNoResult() {
+        return numberThrows(MISSING).headThrows(MISSING).tailThrows(MISSING);
     }
 
     Driver remove(int name) {

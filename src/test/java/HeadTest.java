@@ -31,16 +31,12 @@ public final class HeadTest {
     }
 
     private static void hasNoResultWhenItThrows() {
-        gone(new Driver().ask("n", Driver.NIL).headThrows(Driver.MISSING));
-        gone(new Driver().ask("1", Driver.NUMBER).headThrows(Driver.UNSUPPORTED));
-        gone(new Driver().ask("::12n", Driver.PAIR).headThrows(Driver.UNSUPPORTED));
-        gone(new Driver().ask(":/10n", Driver.PAIR).headThrows(Driver.ARITHMETIC));
-        gone(new Driver().ask(":Fn", Driver.PAIR).headThrows(Driver.MISSING));
-        gone(new Driver().define("A=A", 0).ask(":An", Driver.PAIR).headThrows(Driver.STATE));
-    }
-
-    private static void gone(Driver d) {
-        d.numberThrows(Driver.MISSING).headThrows(Driver.MISSING).tailThrows(Driver.MISSING);
+        new Driver().ask("n", Driver.NIL).headThrows(Driver.MISSING).hasNoResult();
+        new Driver().ask("1", Driver.NUMBER).headThrows(Driver.UNSUPPORTED).hasNoResult();
+        new Driver().ask("::12n", Driver.PAIR).headThrows(Driver.UNSUPPORTED).hasNoResult();
+        new Driver().ask(":/10n", Driver.PAIR).headThrows(Driver.ARITHMETIC).hasNoResult();
+        new Driver().ask(":Fn", Driver.PAIR).headThrows(Driver.MISSING).hasNoResult();
+        new Driver().define("A=A", 0).ask(":An", Driver.PAIR).headThrows(Driver.STATE).hasNoResult();
     }
 
     private static void startsAtDepthOne() {

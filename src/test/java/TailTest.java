@@ -32,16 +32,12 @@ public final class TailTest {
     }
 
     private static void hasNoResultWhenItThrows() {
-        gone(new Driver().ask("n", Driver.NIL).tailThrows(Driver.MISSING));
-        gone(new Driver().ask("1", Driver.NUMBER).tailThrows(Driver.UNSUPPORTED));
-        gone(new Driver().ask(":1/10", Driver.PAIR).tailThrows(Driver.ARITHMETIC));
-        gone(new Driver().ask(":1F", Driver.PAIR).tailThrows(Driver.MISSING));
-        gone(new Driver().ask(":1+n1", Driver.PAIR).tailThrows(Driver.UNSUPPORTED));
-        gone(new Driver().define("A=A", 0).ask(":1A", Driver.PAIR).tailThrows(Driver.STATE));
-    }
-
-    private static void gone(Driver d) {
-        d.numberThrows(Driver.MISSING).headThrows(Driver.MISSING).tailThrows(Driver.MISSING);
+        new Driver().ask("n", Driver.NIL).tailThrows(Driver.MISSING).hasNoResult();
+        new Driver().ask("1", Driver.NUMBER).tailThrows(Driver.UNSUPPORTED).hasNoResult();
+        new Driver().ask(":1/10", Driver.PAIR).tailThrows(Driver.ARITHMETIC).hasNoResult();
+        new Driver().ask(":1F", Driver.PAIR).tailThrows(Driver.MISSING).hasNoResult();
+        new Driver().ask(":1+n1", Driver.PAIR).tailThrows(Driver.UNSUPPORTED).hasNoResult();
+        new Driver().define("A=A", 0).ask(":1A", Driver.PAIR).tailThrows(Driver.STATE).hasNoResult();
     }
 
     private static void goesOnWithTheAsking() {

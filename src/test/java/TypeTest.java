@@ -43,9 +43,6 @@ public final class TypeTest {
         Driver d = new Driver().typeText(thirtyNine).typeThrows(Driver.pack("23"), Driver.STATE).count(1, 39);
         d.type(Driver.pack("!"), 40).type(0L, 40).typeThrows(Driver.pack("2"), Driver.STATE).count(1, 40);
         d.badAsk("", 1).count(1, 0).askNumber("7", 7);
-        String whole = "+".repeat(11) + "1".repeat(12);
-        new Driver().typeText("1".repeat(16)).typeText(whole).count(1, 39);
-        new Driver().typeText("?1" + "?1".repeat(9)).typeText("12345678901").count(1, 31).askNumber("", 1);
     }
 
     private static void refusesCharactersBeforeLength() {

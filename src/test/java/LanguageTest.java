@@ -1,0 +1,112 @@
+import java.io.IOException;
+import java.lang.reflect.Constructor;
+import java.lang.reflect.Field;
+import java.lang.reflect.Method;
+import java.lang.reflect.Modifier;
+import java.nio.file.Files;
+import java.nio.file.Path;
+import java.util.Arrays;
+import java.util.Set;
+import java.util.TreeSet;
+
+/** The public face, and those rules of LANGUAGE.md that can be looked at from outside. */
+public final class LanguageTest {
+    private static final String[] FACE = {
+        "public int NeedMachine.ask() throws java.lang.IllegalArgumentException,java.util.NoSuchElementException,"
+            + "java.lang.ArithmeticException,java.lang.IllegalStateException,java.lang.UnsupportedOperationException",
+        "public int NeedMachine.count(int)",
+        "public int NeedMachine.define() throws java.lang.IllegalArgumentException",
+        "public int NeedMachine.head() throws java.util.NoSuchElementException,java.lang.ArithmeticException,"
+            + "java.lang.IllegalStateException,java.lang.UnsupportedOperationException",
+        "public int NeedMachine.number() throws java.util.NoSuchElementException,java.lang.UnsupportedOperationException",
+        "public int NeedMachine.tail() throws java.util.NoSuchElementException,java.lang.ArithmeticException,"
+            + "java.lang.IllegalStateException,java.lang.UnsupportedOperationException",
+        "public int NeedMachine.type(long) throws java.lang.IllegalArgumentException,java.lang.IllegalStateException",
+        "public void NeedMachine.remove(int) throws java.lang.IllegalArgumentException,java.util.NoSuchElementException",
+    };
+    private static final String[] FORBIDDEN = {
+        "finally", "synchronized", "assert ", "->", "::", "Exact(", "getMessage", "hashCode", "toString", "static {",
+        "Random", "System.", "Thread", "try", "catch",
+    };
+
+    public static void main(String[] args) throws IOException {
+        hasTheDocumentsFace();
+        showsNothingElse();
+        keepsItsClassesSmall();
+        usesNothingForbidden();
+        keepsFewCallsOpen();
+        Driver.end();
+    }
+
+    private static void hasTheDocumentsFace() {
+        Set<String> found = new TreeSet<>();
+        Set<String> publicNames = new TreeSet<>();
+        for (Method method : NeedMachine.class.getDeclaredMethods()) {
+            if (!Modifier.isPrivate(method.getModifiers())) {
+                found.add(method.toString());
+                publicNames.add(method.getName());
+            }
+        }
+        Driver.same("the face", found, new TreeSet<>(Arrays.asList(FACE)));
+        for (Method method : NeedMachine.class.getDeclaredMethods()) {
+            boolean shadows = Modifier.isPrivate(method.getModifiers()) && publicNames.contains(method.getName());
+            Driver.same(method + " bears a public name", shadows, false);
+        }
+        Driver.same("the class", Modifier.toString(NeedMachine.class.getModifiers()), "public final");
+    }
+
+    private static void showsNothingElse() {
+        Constructor<?>[] constructors = NeedMachine.class.getDeclaredConstructors();
+        Driver.same("constructors", constructors.length, 1);
+        Driver.same("constructor", constructors[0].toString(), "public NeedMachine()");
+        for (Field field : NeedMachine.class.getDeclaredFields()) {
+            Driver.same(field + " is private", Modifier.isPrivate(field.getModifiers()), true);
+        }
+    }
+
+    private static void keepsItsClassesSmall() {
+        Class<?>[] inside = NeedMachine.class.getDeclaredClasses();
+        Driver.same("at most twelve classes", inside.length + 1 <= 12, true);
+        for (Class<?> each : inside) {
+            Driver.same(each + " is static", Modifier.isStatic(each.getModifiers()), true);
+            Driver.same(each + " is not public", Modifier.isPublic(each.getModifiers()), false);
+            Driver.same(each + " has few fields", each.getDeclaredFields().length <= 20, true);
+        }
+        for (Field field : NeedMachine.class.getDeclaredFields()) {
+            boolean loose = Modifier.isStatic(field.getModifiers()) && !Modifier.isFinal(field.getModifiers());
+            Driver.same(field + " is static and may change", loose, false);
+        }
+    }
+
+    private static void usesNothingForbidden() throws IOException {
+        String source = Files.readString(Path.of("src/main/java/NeedMachine.java"));
+        for (String word : FORBIDDEN) {
+            Driver.same("the program uses '" + word + "'", source.contains(word), false);
+        }
+        String imports = "import java.util.ArrayList;\nimport java.util.NoSuchElementException;\n\n";
+        Driver.same("the program begins with its imports", source.startsWith(imports), true);
+        Driver.same("the program has no other import", source.indexOf("import", imports.length()), -1);
+    }
+
+    /** Rule 8: fewer than 300 calls stand open at once, in whatever way working out goes 60 deep. */
+    private static void keepsFewCallsOpen() {
+        String[] deep = {"A=A", "A=+1A", "A=h:An", "A=zA", "A=?A11", "A=.A1", "A=t:n+A1", "A=+h:AAn", "A=?1A1"};
+        for (String definition : deep) {
+            NeedMachine machine = new NeedMachine();
+            machine.type(Driver.pack(definition));
+            machine.define();
+            machine.type(Driver.pack("A"));
+            int open = openCalls(machine);
+            Driver.same(definition + " has " + open + " calls open, as it should", open > 60 && open < 300, true);
+        }
+    }
+
+    private static int openCalls(NeedMachine machine) {
+        try {
+            machine.ask();
+            return 0;
+        } catch (IllegalStateException e) {
+            return e.getStackTrace().length;
+        }
+    }
+}
