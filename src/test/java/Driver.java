@@ -13,10 +13,14 @@ final class Driver {
     static final int PAIR = 2;
     static final int FUNCTION = 3;
 
+    private static final int MOST_CALLS = 512;
+    private static final int MOST_HISTORY = 300;
+
     private static int wrong;
     private static int checked;
 
     private final NeedMachine machine = new NeedMachine();
+    private int calls;
     private final StringBuilder history = new StringBuilder();
 
     /** Up to eight characters as the number that types them. */
@@ -36,6 +40,10 @@ final class Driver {
         }
     }
 
+    static int wrongSoFar() {
+        return wrong;
+    }
+
     static void same(String what, Object got, Object due) {
         checked++;
         if (!due.equals(got)) {
@@ -53,9 +61,27 @@ final class Driver {
     }
 
     private Driver check(String call, IntSupplier made, Object due) {
-        same(history + call, outcome(made), due);
+        countCall();
+        same(latest() + call, outcome(made), due);
         history.append(call).append("; ");
         return this;
+    }
+
+    private String latest() {
+        int from = history.length() - MOST_HISTORY;
+        return from <= 0 ? history.toString() : ".. " + history.substring(from);
+    }
+
+    /** Nothing is promised about what an object answers beyond its last call. */
+    private void countCall() {
+        calls++;
+        if (calls > MOST_CALLS) {
+            throw new AssertionError("the test makes more calls than an object is used for");
+        }
+    }
+
+    int callsLeft() {
+        return MOST_CALLS - calls;
     }
 
     private static String shown(String call, String text) {
@@ -64,6 +90,7 @@ final class Driver {
 
     private void typeAll(String text) {
         for (int i = 0; i < text.length(); i += 8) {
+            countCall();
             machine.type(pack(text.substring(i, Math.min(text.length(), i + 8))));
         }
     }
@@ -87,9 +114,13 @@ final class Driver {
         return check(shown("define", text), machine::define, due);
     }
 
-    Driver badDefine(String text, int place) {
+    Driver defineThrows(String text, Class<? extends RuntimeException> due) {
         typeAll(text);
-        return check(shown("define", text), machine::define, BAD).count(0, place);
+        return check(shown("define", text), machine::define, due);
+    }
+
+    Driver badDefine(String text, int place) {
+        return defineThrows(text, BAD).count(0, place);
     }
 
     Driver ask(String text, int due) {
@@ -100,6 +131,7 @@ final class Driver {
     /** For what ask leaves behind, whatever it answers. */
     Driver askAnything(String text) {
         typeAll(text);
+        countCall();
         history.append(shown("ask", text)).append("; ");
         outcome(machine::ask);
         return this;

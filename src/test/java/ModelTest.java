@@ -1,7 +1,7 @@
 import java.util.Random;
 import java.util.function.IntSupplier;
 
-/** All promises: long runs of chosen and made-up calls answer as the plain model does. */
+/** All promises: runs of 512 chosen and made-up calls answer as the plain model does. */
 public final class ModelTest {
     /** Texts that work together, so that runs go deep and far; each run mixes its own from them. */
     private static final String[] DEFINITIONS = {
@@ -21,74 +21,93 @@ public final class ModelTest {
     private static final String SIGNS = "..+-*/%<=:::htz?..";
     private static final String LEAVES = "0123456789nnABCDEF";
 
+    private static final int CALLS = 512;
+
+    private final Random random;
+    private final NeedMachine machine = new NeedMachine();
+    private final PlainModel model = new PlainModel();
+    private final String run;
+    private int calls;
+
+    private ModelTest(int seed) {
+        random = new Random(seed);
+        run = "run " + seed + " call ";
+    }
+
     public static void main(String[] args) {
         for (int seed = 1; seed <= 1500; seed++) {
-            run(new Random(seed), seed);
+            new ModelTest(seed).makeAllCalls();
         }
         Driver.end();
     }
 
-    private static void run(Random random, int seed) {
-        NeedMachine machine = new NeedMachine();
-        PlainModel model = new PlainModel();
-        for (int i = 0; i < 60; i++) {
-            step(random, machine, model, "run " + seed + " step " + i + ": ");
+    /** As many as an object is used for, the last of them telling all that count tells. */
+    private void makeAllCalls() {
+        while (calls < CALLS - 24) {
+            makeSomeCalls();
+            for (int i = 0; i < 4; i++) {
+                count(random.nextInt(10) - 1);
+            }
+        }
+        for (int what = 0; calls < CALLS; what++) {
+            count(what % 10 - 1);
         }
     }
 
-    private static void step(Random random, NeedMachine machine, PlainModel model, String where) {
+    private void makeSomeCalls() {
         int choice = random.nextInt(20);
         if (choice < 5) {
-            String text = random.nextInt(4) == 0 ? madeUpDefinition(random) : one(random, DEFINITIONS);
-            type(machine, model, text, where);
-            same(where + "define " + text, machine::define, model::define);
+            type(random.nextInt(4) == 0 ? madeUpDefinition() : one(DEFINITIONS));
+            same("define", machine::define, model::define);
         } else if (choice < 10) {
-            String text = random.nextInt(3) == 0 ? madeUp(random, "", 1 + random.nextInt(6)) : one(random, ASKED);
-            type(machine, model, text, where);
-            same(where + "ask " + text, machine::ask, model::ask);
+            type(random.nextInt(3) == 0 ? madeUp("", 1 + random.nextInt(6)) : one(ASKED));
+            same("ask", machine::ask, model::ask);
         } else if (choice < 13) {
-            same(where + "head", machine::head, model::head);
+            same("head", machine::head, model::head);
         } else if (choice < 17) {
-            same(where + "tail", machine::tail, model::tail);
+            same("tail", machine::tail, model::tail);
         } else if (choice < 18) {
-            same(where + "number", machine::number, model::number);
+            same("number", machine::number, model::number);
         } else if (choice < 19) {
             int name = random.nextInt(14) - 1;
-            same(where + "remove " + name, () -> removed(machine, name), () -> model.remove(name));
+            same("remove " + name, () -> removed(name), () -> model.remove(name));
         } else {
-            type(machine, model, String.valueOf((char) (30 + random.nextInt(100))), where);
-        }
-        for (int what = -1; what <= 8; what++) {
-            Driver.same(where + "count " + what, machine.count(what), model.count(what));
+            type(String.valueOf((char) (30 + random.nextInt(100))));
         }
     }
 
-    private static int removed(NeedMachine machine, int name) {
+    private int removed(int name) {
         machine.remove(name);
         return 0;
     }
 
-    private static void type(NeedMachine machine, PlainModel model, String text, String where) {
-        for (int i = 0; i < text.length(); i += 8) {
+    private void count(int what) {
+        same("count " + what, () -> machine.count(what), () -> model.count(what));
+    }
+
+    /** Texts that can be refused for their length are cut off, so that the calls that they take are few. */
+    private void type(String text) {
+        for (int i = 0; i < Math.min(text.length(), 48); i += 8) {
             long eight = Driver.pack(text.substring(i, Math.min(text.length(), i + 8)));
-            same(where + "type " + text, () -> machine.type(eight), () -> model.type(eight));
+            same("type " + text, () -> machine.type(eight), () -> model.type(eight));
         }
     }
 
-    private static void same(String call, IntSupplier got, IntSupplier due) {
-        Driver.same(call, Driver.outcome(got), Driver.outcome(due));
+    private void same(String call, IntSupplier got, IntSupplier due) {
+        calls++;
+        Driver.same(run + calls + ": " + call, Driver.outcome(got), Driver.outcome(due));
     }
 
-    private static String one(Random random, String[] texts) {
+    private String one(String[] texts) {
         return texts[random.nextInt(texts.length)];
     }
 
-    private static String madeUpDefinition(Random random) {
+    private String madeUpDefinition() {
         String parameters = "abcdef".substring(0, random.nextInt(5));
-        return "ABCDEF".charAt(random.nextInt(6)) + parameters + "=" + madeUp(random, parameters, 1 + random.nextInt(6));
+        return "ABCDEF".charAt(random.nextInt(6)) + parameters + "=" + madeUp(parameters, 1 + random.nextInt(6));
     }
 
-    private static String madeUp(Random random, String parameters, int depth) {
+    private String madeUp(String parameters, int depth) {
         if (depth == 1 || random.nextInt(6) == 0) {
             String leaves = LEAVES + parameters.repeat(9);
             return String.valueOf(leaves.charAt(random.nextInt(leaves.length())));
@@ -96,7 +115,7 @@ public final class ModelTest {
         char sign = SIGNS.charAt(random.nextInt(SIGNS.length()));
         StringBuilder text = new StringBuilder().append(sign);
         for (int i = 0; i < PlainReader.partsOf(sign); i++) {
-            text.append(madeUp(random, parameters, depth - 1));
+            text.append(madeUp(parameters, depth - 1));
         }
         return text.toString();
     }

@@ -3,6 +3,7 @@ import java.lang.management.ManagementFactory;
 
 /** All 512 calls of one object stay within a small part of the room, however much they work out. */
 public final class RoomTest {
+    private static final int CALLS = 512;
     /** Far below 600,000 objects, the smallest of which take 16 bytes. */
     private static final long MOST_BYTES = 3_000_000;
 
@@ -20,14 +21,16 @@ public final class RoomTest {
         NeedMachine machine = new NeedMachine();
         int calls = type(machine, definition) + 1;
         machine.define();
-        while (calls < 500) {
+        int askings = 0;
+        while (calls < CALLS - 3) {
             calls += type(machine, asked) + 1;
             machine.ask();
-            Driver.same(what + " calls", machine.count(3), callsEach);
+            askings++;
         }
         long used = meter.getThreadAllocatedBytes(me) - before;
-        System.out.println(what + ": " + used + " bytes for " + machine.count(4) + " calls");
+        System.out.println(what + ": " + used + " bytes for " + askings + " askings");
         Driver.same(what + " fit", used < MOST_BYTES, true);
+        Driver.same(what + " calls", machine.count(4), callsEach * askings);
     }
 
     private static int type(NeedMachine machine, String text) {
