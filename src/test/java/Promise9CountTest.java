@@ -111,14 +111,15 @@ public final class Promise9CountTest {
     @Says("the deepest depth of the latest ASKING and what followed (7);")
     static void tellsNoMoreThanSixtyDepths() {
         Driver d = new Driver().define("B=B", 0).askThrows("B", Driver.STATE).count(7, 60).hasNoResult().count(7, 60);
-        d.askThrows("+1n", Driver.UNSUPPORTED).count(7, 2).ask(":1B", Driver.PAIR).count(7, 1).tailThrows(Driver.STATE).count(7, 60);
+        d.askThrows("+1n", Driver.UNSUPPORTED).count(7, 2).ask(":1B", Driver.PAIR).count(7, 1);
+        d.tailThrows(Driver.STATE).count(7, 60);
     }
 
     @Says("else -1.")
     static void answersNothingElse() {
         int[] others = {-1, 8, 9, 10, 100, -8, 1 << 8, 1 << 16, Integer.MIN_VALUE, Integer.MAX_VALUE};
         for (int what : others) {
-            new Driver().count(what, -1).define("A=1", 0).askNumber("A", 1).count(what, -1);
+            new Driver().count(what, -1).define("Aa=+aa", 1).badAsk("A1", 1).askNumber(".A1", 2).typeText("1").count(what, -1);
         }
     }
 

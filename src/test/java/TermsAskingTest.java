@@ -22,7 +22,8 @@ public final class TermsAskingTest {
         Driver d = new Driver().define("Aab=:+ab:*ab-ab", 2).ask("..A73", Driver.PAIR).remove(0).head(10);
         d.define("Aab=0", 2).tail(Driver.PAIR).head(21).define("A=0", 0).tail(Driver.NUMBER).number(4);
         d = new Driver().define("A=1", 0).ask(":AA", Driver.PAIR).head(1).define("A=2", 0).head(1).remove(0).head(1).count(3, 1);
-        d = new Driver().define("Aa=:aa", 1).define("B=6", 0).ask(".AB", Driver.PAIR).head(6).remove(1).tail(Driver.NUMBER).number(6);
+        d = new Driver().define("Aa=:aa", 1).define("B=6", 0).ask(".AB", Driver.PAIR).head(6).remove(1);
+        d.tail(Driver.NUMBER).number(6);
     }
 
     @Says("those not worked out yet use the DEFINITIONS then.")

@@ -38,7 +38,8 @@ public final class TermsLimitsTest {
     /** Each text is three deep in itself. */
     @Says("at most 60 within one another (the first is at depth 1), else IllegalStateException.")
     static void standsSixtyDeep() {
-        String[] three = {"+1+11", "++111", "?01+11", "?1+111", "?+1111", "h:+11n", "t:n+11", "zt:1n", ".C1", "E", "..B01", "+1A"};
+        String[] three = {"+1+11", "++111", "?01+11", "?1+111", "?+1111", "h:+11n", "t:n+11", "zt:1n", ".C1", "E", "..B01",
+            "+1A"};
         for (String text : three) {
             withNames().ask(AT_FIFTY_EIGHT + text, Driver.NUMBER).count(7, 60);
         }
@@ -46,11 +47,12 @@ public final class TermsLimitsTest {
     }
 
     /** Each text is four deep in itself, by another way in which working out stands within working out. */
-    @Says({"Working out stands within working out, for parts, in FORCING and in CALLS (also where nothing is left to be done then):",
+    @Says({"Working out stands within working out, for parts,",
+        "in FORCING and in CALLS (also where nothing is left to be done then):",
         "at most 60 within one another (the first is at depth 1), else IllegalStateException."})
     static void standsNoDeeperThanSixty() {
-        String[] four = {"+1+1+11", "+++1111", "*1*1*11", "?+1+1111", "?1+1+111", "?01+1+11", "h+1+11", "t+1+11", "z+1+11", ".+1+111",
-            "h:+1+11n", "t:n+1+11", ".C+11", ".CA", ".F1", "h:En", "t:nE", "+1E", "?1E1", "..BEA"};
+        String[] four = {"+1+1+11", "+++1111", "*1*1*11", "?+1+1111", "?1+1+111", "?01+1+11", "h+1+11", "t+1+11",
+            "z+1+11", ".+1+111", "h:+1+11n", "t:n+1+11", ".C+11", ".CA", ".F1", "h:En", "t:nE", "+1E", "?1E1", "..BEA"};
         for (String text : four) {
             withNames().askThrows(AT_FIFTY_EIGHT + text, Driver.STATE).count(7, 60).hasNoResult().count(7, 60);
         }

@@ -115,7 +115,8 @@ public final class TermsWorkingOutTest {
         d.askNumber("B", 256).askNumber("*B*BB", 1 << 24).askNumber("*B*B*BB", 0).askNumber("*B*B*B8", 1 << 27);
         d.askNumber("C", Integer.MIN_VALUE).askNumber("-C1", Integer.MAX_VALUE).askNumber("+-C11", Integer.MIN_VALUE);
         d.askNumber("+-C12", Integer.MIN_VALUE + 1).askNumber("-0C", Integer.MIN_VALUE).askNumber("*CC", 0).askNumber("+CC", 0);
-        d.askNumber("/C-01", Integer.MIN_VALUE).askNumber("%C-01", 0).askNumber("*-C12", -2).askNumber("*C-01", Integer.MIN_VALUE);
+        d.askNumber("/C-01", Integer.MIN_VALUE).askNumber("%C-01", 0).askNumber("*-C12", -2);
+        d.askNumber("*C-01", Integer.MIN_VALUE);
     }
 
     @Says("/ and % towards zero,")
