@@ -92,7 +92,8 @@ public final class TermsReadingTest {
             new Driver().badAsk("?01".repeat(11) + sign + "11", 33).badDefine("A=" + "h".repeat(11) + sign, 13);
         }
         new Driver().badAsk(ELEVEN + "1+", 12).badAsk(ELEVEN + "11+1", 15).badAsk(ELEVEN + "11++", 14);
-        new Driver().badAsk("z".repeat(12) + "n", 11).badAsk("?".repeat(12), 11).badAsk(".".repeat(40), 11).badDefine("Aa=" + ELEVEN + "+", 14);
+        new Driver().badAsk("z".repeat(12) + "n", 11).badAsk("?".repeat(12), 11);
+        new Driver().badAsk(".".repeat(40), 11).badDefine("Aa=" + ELEVEN + "+", 14);
     }
 
     @Says("A DEFINITION: a NAME,")
