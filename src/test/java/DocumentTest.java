@@ -21,7 +21,7 @@ public final class DocumentTest {
         Driver.end();
     }
 
-    /** By heading, 'Promise 2: type' being 'Promise 2'; the face of the calls is LanguageTest's. */
+    /** By heading, 'Promise 2: type' being 'Promise 2'; the face of the calls is PublicFaceTest's. */
     private static Map<String, String> sections() throws IOException {
         Map<String, String> found = new TreeMap<>();
         for (String section : Files.readString(Path.of("../shared/DOC.md")).split("\n## ")) {

@@ -1,66 +1,37 @@
 import java.io.IOException;
-import java.lang.reflect.Constructor;
 import java.lang.reflect.Field;
 import java.lang.reflect.Method;
 import java.lang.reflect.Modifier;
 import java.nio.file.Files;
 import java.nio.file.Path;
-import java.util.Arrays;
 import java.util.Set;
 import java.util.TreeSet;
 
-/** The public face, and those rules of LANGUAGE.md that can be looked at from outside. */
+/** Those rules of LANGUAGE.md that can be looked at from outside; the face is PublicFaceTest's. */
 public final class LanguageTest {
-    private static final String[] FACE = {
-        "public int NeedMachine.ask() throws java.lang.IllegalArgumentException,java.util.NoSuchElementException,"
-            + "java.lang.ArithmeticException,java.lang.IllegalStateException,java.lang.UnsupportedOperationException",
-        "public int NeedMachine.count(int)",
-        "public int NeedMachine.define() throws java.lang.IllegalArgumentException",
-        "public int NeedMachine.head() throws java.util.NoSuchElementException,java.lang.ArithmeticException,"
-            + "java.lang.IllegalStateException,java.lang.UnsupportedOperationException",
-        "public int NeedMachine.number() throws java.util.NoSuchElementException,java.lang.UnsupportedOperationException",
-        "public int NeedMachine.tail() throws java.util.NoSuchElementException,java.lang.ArithmeticException,"
-            + "java.lang.IllegalStateException,java.lang.UnsupportedOperationException",
-        "public int NeedMachine.type(long) throws java.lang.IllegalArgumentException,java.lang.IllegalStateException",
-        "public void NeedMachine.remove(int) throws java.lang.IllegalArgumentException,java.util.NoSuchElementException",
-    };
     private static final String[] FORBIDDEN = {
         "finally", "synchronized", "assert ", "->", "::", "Exact(", "getMessage", "hashCode", "static {", "Random", "Thread",
         "System.in", "System.out", "System.err", "System.nano", "System.current", "System.get", "java.io", "java.nio",
     };
 
     public static void main(String[] args) throws IOException {
-        hasTheDocumentsFace();
-        showsNothingElse();
+        namesNoPrivateMethodAsAPublicOne();
         keepsItsClassesSmall();
         usesNothingForbidden();
         keepsFewCallsOpen();
         Driver.end();
     }
 
-    private static void hasTheDocumentsFace() {
-        Set<String> found = new TreeSet<>();
+    private static void namesNoPrivateMethodAsAPublicOne() {
         Set<String> publicNames = new TreeSet<>();
         for (Method method : NeedMachine.class.getDeclaredMethods()) {
-            if (!Modifier.isPrivate(method.getModifiers())) {
-                found.add(method.toString());
+            if (Modifier.isPublic(method.getModifiers())) {
                 publicNames.add(method.getName());
             }
         }
-        Driver.same("the face", found, new TreeSet<>(Arrays.asList(FACE)));
         for (Method method : NeedMachine.class.getDeclaredMethods()) {
             boolean shadows = Modifier.isPrivate(method.getModifiers()) && publicNames.contains(method.getName());
             Driver.same(method + " bears a public name", shadows, false);
-        }
-        Driver.same("the class", Modifier.toString(NeedMachine.class.getModifiers()), "public final");
-    }
-
-    private static void showsNothingElse() {
-        Constructor<?>[] constructors = NeedMachine.class.getDeclaredConstructors();
-        Driver.same("constructors", constructors.length, 1);
-        Driver.same("constructor", constructors[0].toString(), "public NeedMachine()");
-        for (Field field : NeedMachine.class.getDeclaredFields()) {
-            Driver.same(field + " is private", Modifier.isPrivate(field.getModifiers()), true);
         }
     }
 
